@@ -759,11 +759,7 @@ public final class ImposeSheets {
         }
 
         private int plateCount() {
-            int greatest = 0;
-            for (int i = 0; i < jobs; i++) {
-                greatest = Math.max(greatest, way[i]);
-            }
-            return greatest + 1;
+            return greatestBefore(jobs) + 1;
         }
 
         private int costOfWay(int plateCost) {
