@@ -778,7 +778,7 @@ public final class ImposeSheets {
 
         private void fillPlates() {
             Arrays.fill(plateJobs, 0);
-            for (int i = 0; i < jobs; i++) {
+            for (int i = 0; i < jobs && i < MOST_JOBS; i++) {
                 int plate = way[i];
                 if (plate >= 0 && plate < MOST_JOBS) {
                     plateJobs[plate] |= 1 << i;
@@ -813,7 +813,7 @@ public final class ImposeSheets {
 
         private int slotsFor(int set, int sheets) {
             int sum = 0;
-            for (int i = 0; i < jobs; i++) {
+            for (int i = 0; i < jobs && i < MOST_JOBS; i++) {
                 if ((set >> i & 1) == 1) {
                     sum += upward(copies[i], sheets);
                 }
@@ -823,7 +823,7 @@ public final class ImposeSheets {
 
         private void takeWay() {
             takenPlates = plateCount();
-            for (int i = 0; i < jobs; i++) {
+            for (int i = 0; i < jobs && i < MOST_JOBS; i++) {
                 int plate = way[i];
                 takenPlate[i] = plate;
                 takenSheets[i] = plate >= 0 && plate < MOST_JOBS ? sheetsFor(plateJobs[plate]) : 0;
@@ -832,7 +832,7 @@ public final class ImposeSheets {
 
         /** The last job that may have a greater number gets the next one, and all behind it 0. */
         private boolean goToNextWay() {
-            for (int i = jobs - 1; i > 0; i--) {
+            for (int i = Math.min(jobs, MOST_JOBS) - 1; i > 0; i--) {
                 if (way[i] <= greatestBefore(i)) {
                     way[i]++;
                     return true;

@@ -6,6 +6,22 @@ final class Checks {
 
     private int wrong = 0;
     private int made = 0;
+    private String words = "";
+    private int madeBeforeWords = 0;
+
+    /** What follows, up to the next words, tests these words of the document. */
+    void words(String place, String quoted) {
+        endWords();
+        words = place + " \"" + quoted + "\": ";
+        madeBeforeWords = made;
+    }
+
+    private void endWords() {
+        if (!words.isEmpty() && made == madeBeforeWords) {
+            tellWrong("nothing was tested");
+        }
+        words = "";
+    }
 
     void due(String what, long want, long got) {
         made++;
@@ -43,6 +59,7 @@ final class Checks {
     }
 
     void end() {
+        endWords();
         System.out.println(wrong == 0 ? made + " answers are as due" : wrong + " of " + made + " answers are not as due");
         if (wrong != 0) {
             System.exit(1);
@@ -52,8 +69,20 @@ final class Checks {
     private void tellWrong(String text) {
         wrong++;
         if (wrong <= 50) {
-            System.out.println(text);
+            System.out.println(words + text);
         }
+    }
+
+    /** An object with a scheme, and with settings told as pairs of what and v. */
+    static ImposeSheets with(String scheme, int... settings) {
+        ImposeSheets sheets = new ImposeSheets();
+        if (scheme(sheets, scheme) <= 0) {
+            throw new AssertionError("not taken as a scheme: " + scheme);
+        }
+        for (int i = 0; i < settings.length; i += 2) {
+            sheets.setting(settings[i], settings[i + 1]);
+        }
+        return sheets;
     }
 
     /** Types a text, eight bytes a call, and answers what scheme() does. */
