@@ -44,6 +44,8 @@ public final class RefusedTest {
         full.fullTape();
         full.wrongRuns();
         wrongSchemes();
+        laid.calledToTell();
+        clearWithoutJobs();
         CHECKS.end();
     }
 
@@ -276,5 +278,37 @@ public final class RefusedTest {
         for (String text : texts) {
             laid.refused("scheme " + text, "1", x -> Checks.scheme(x, text) < 0 ? 1 : 0);
         }
+    }
+
+    /** Calls that only tell something change nothing, either. */
+    private void calledToTell() {
+        refused("broken", "0", x -> x.broken());
+        refused("laid", "2", x -> x.laid(0));
+        refused("at of a page", "11", x -> x.at(0, 0, 1, 0));
+        refused("at of a blank place", "0", x -> x.at(0, 1, 0, 0));
+        refused("fold of a blank place", "0", x -> x.fold(0));
+        refused("creep", "0", x -> x.creep(13));
+        refused("shared", "4", x -> x.shared(-2, 0));
+    }
+
+    private static void clearWithoutJobs() {
+        RefusedTest laid = new RefusedTest("no jobs", () -> {
+            ImposeSheets x = withAll();
+            x.clear();
+            return x;
+        });
+        laid.refused("clear once more", "0", x -> {
+            x.clear();
+            return 0;
+        });
+        ImposeSheets cleared = withAll();
+        cleared.clear();
+        StringBuilder before = new StringBuilder();
+        StringBuilder after = new StringBuilder();
+        seeLaid(before, withAll());
+        seeLaid(after, cleared);
+        CHECKS.due("what is laid behind clear", before.toString(), after.toString());
+        CHECKS.due("the tape behind clear", true, cleared.type('!', 1));
+        CHECKS.due("the tape behind clear", 2, cleared.scheme());
     }
 }
